@@ -22,8 +22,9 @@ public final class NewObjectTest {
     }
 
     private static void screen() {
-        PixelPipe pipe = new PixelPipe();
         for (int y = 0; y < Scenes.HEIGHT; y++) {
+            // A row at a time, since nothing is promised of an object after its 512th call.
+            PixelPipe pipe = new PixelPipe();
             for (int x = 0; x < Scenes.WIDTH; x++) {
                 String where = x + ", " + y;
                 checks.due("new: pixel " + where, pipe.pixel(x, y), 0);

@@ -40,12 +40,13 @@ public final class ScissorTest {
     }
 
     private static void boundsClear() {
-        PixelPipe pipe = new PixelPipe();
-        pipe.scissor(3, 2, 7, 4);
-        pipe.clear(0, 9);
-        pipe.clear(1, 8);
-        pipe.clear(2, 7);
         for (int y = 0; y < Scenes.HEIGHT; y++) {
+            // A row at a time, since nothing is promised of an object after its 512th call.
+            PixelPipe pipe = new PixelPipe();
+            pipe.scissor(3, 2, 7, 4);
+            pipe.clear(0, 9);
+            pipe.clear(1, 8);
+            pipe.clear(2, 7);
             for (int x = 0; x < Scenes.WIDTH; x++) {
                 String where = " at " + x + ", " + y;
                 checks.due("cleared colour" + where, pipe.pixel(x, y), isInside(x, y) ? 9 : 0);
