@@ -24,6 +24,7 @@ public final class PixelPipe {
 
     // A vertex has its values in the order in which the program's registers begin: r, g, b, alpha, s, t.
     private static final int VALUES = 6;
+    private static final int VERTEX_VALUES = VERTICES * VALUES;
     private static final int PAINT_VALUES = 4;
     private static final int REGISTER_X = 6;
     private static final int REGISTER_Z = 7;
@@ -79,7 +80,7 @@ public final class PixelPipe {
     private final int[] vertexY = new int[VERTICES];
     private final int[] vertexZ = new int[VERTICES];
     private final int[] vertexQ = new int[VERTICES];
-    private final int[] vertexValues = new int[VERTICES * VALUES];
+    private final int[] vertexValues = new int[VERTEX_VALUES];
 
     private final int[] settings = new int[SETTINGS];
     private final int[] counts = new int[COUNTS];

@@ -8,6 +8,7 @@ public final class CoverTest {
         slantingEdges();
         turnedTriangleCoversTheSame();
         nothing();
+        smallest();
         largest();
         pointPlaces();
         meshesCoverOnce();
@@ -99,6 +100,28 @@ public final class CoverTest {
         pipe.vertex(2, 4, 4, 0, 1);
         checks.due("two corners at one place", pipe.draw(1, 0, 3), 0);
         checks.due("it was not drawn", pipe.count(5), 0);
+    }
+
+    /** A triangle with CROSS 1 and sides of one eighth, its upper left corner on a middle. */
+    private static void smallest() {
+        PixelPipe pipe = new PixelPipe();
+        pipe.vertex(0, 12, 20, 77, 1);
+        pipe.vertex(1, 13, 20, 0, 1);
+        pipe.vertex(2, 12, 21, 0, 1);
+        checks.due("smallest triangle", pipe.draw(1, 0, 3), 1);
+        checks.due("its depth", pipe.at(1, 2, 0), 77);
+        pipe.vertex(1, 12, 21, 0, 1);
+        pipe.vertex(2, 13, 20, 0, 1);
+        checks.due("smallest triangle, turned", pipe.draw(1, 0, 3), 1);
+        pipe.set(9, 1);
+        checks.due("smallest triangle, turned, with CULL 1", pipe.draw(1, 0, 3), 0);
+        pipe.set(9, 2);
+        checks.due("smallest triangle, turned, with CULL 2", pipe.draw(1, 0, 3), 1);
+        pipe.vertex(1, 13, 20, 0, 1);
+        pipe.vertex(2, 12, 21, 0, 1);
+        checks.due("smallest triangle with CULL 2", pipe.draw(1, 0, 3), 0);
+        pipe.set(9, 1);
+        checks.due("smallest triangle with CULL 1", pipe.draw(1, 0, 3), 1);
     }
 
     private static void largest() {
