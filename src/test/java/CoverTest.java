@@ -6,11 +6,17 @@ public final class CoverTest {
     public static void main(String[] args) {
         edgesOnMiddles();
         slantingEdges();
+        besideTheEdge();
+        cornersOnMiddles();
         turnedTriangleCoversTheSame();
         nothing();
+        almostNothing();
         smallest();
         largest();
+        noMiddleInside();
+        outsideOfTheScreen();
         pointPlaces();
+        pointsFarOutside();
         meshesCoverOnce();
         checks.end();
     }
@@ -51,6 +57,62 @@ public final class CoverTest {
         checks.due("corner of two edges that have it", covered(12, 12, 44, 12, 12, 44, 1, 1), 1);
         checks.due("right corner", covered(12, 12, 44, 12, 12, 44, 5, 1), 0);
         checks.due("lower corner", covered(12, 12, 44, 12, 12, 44, 1, 5), 0);
+    }
+
+    /** An edge in each direction, with a middle just inside of it, on it, and just outside of it. */
+    private static void besideTheEdge() {
+        int[][] directions = {
+            {0, -24, 1}, {2, -24, 1}, {22, -24, 1}, {24, -2, 1}, {24, 0, 1}, {24, 2, 0}, {24, 22, 0}, {2, 24, 0},
+            {0, 24, 0}, {-2, 24, 0}, {-22, 24, 0}, {-24, 2, 0}, {-24, 0, 0}, {-24, -2, 1}, {-22, -24, 1}, {-2, -24, 1}};
+        for (int[] n : directions) {
+            String edge = "edge " + n[0] + ", " + n[1];
+            // The least weight above 0 that a middle can have beside the edge.
+            int least = n[0] == 0 || n[1] == 0 ? 24 : 2;
+            checks.due("just inside of an " + edge, beside(n[0], n[1], least), 1);
+            checks.due("on an " + edge, beside(n[0], n[1], 0), n[2]);
+            checks.due("just outside of an " + edge, beside(n[0], n[1], -least), 0);
+        }
+        int[][] odd = {{25, -2}, {2, -25}, {-2, -25}, {-25, -2}, {-25, 2}, {-2, 25}, {2, 25}, {25, 2}};
+        for (int[] n : odd) {
+            checks.due("weight 1 beside the edge " + n[0] + ", " + n[1], beside(n[0], n[1], 1), 1);
+            checks.due("weight -1 beside the edge " + n[0] + ", " + n[1], beside(n[0], n[1], -1), 0);
+        }
+    }
+
+    /** Whether the middle of 10, 8 is covered where it has this weight, about halfway along the edge. */
+    private static int beside(int dx, int dy, int weight) {
+        for (int ox = -30; ox <= 30; ox++) {
+            for (int oy = -30; oy <= 30; oy++) {
+                int along = 4 * (dx * ox + dy * oy);
+                int length = dx * dx + dy * dy;
+                if (dx * oy - dy * ox == weight && along > length && along < 3 * length) {
+                    int fromX = 84 - ox;
+                    int fromY = 68 - oy;
+                    return covered(fromX, fromY, fromX + dx, fromY + dy,
+                            fromX + dx / 2 - 2 * dy, fromY + dy / 2 + 2 * dx, 10, 8);
+                }
+            }
+        }
+        return -2;
+    }
+
+    /** A middle on a corner is covered only if both edges have it: here for triangles in each of 16 directions. */
+    private static void cornersOnMiddles() {
+        int[][] about = {
+            {40, 0}, {40, 20}, {40, 40}, {20, 40}, {0, 40}, {-20, 40}, {-40, 40}, {-40, 20},
+            {-40, 0}, {-40, -20}, {-40, -40}, {-20, -40}, {0, -40}, {20, -40}, {40, -40}, {40, -20}};
+        int times = 0;
+        for (int n = 0; n < 16; n++) {
+            int[] from = about[n];
+            int[] to = about[(n + 1) % 16];
+            int got = covered(84, 68, 84 + from[0], 68 + from[1], 84 + to[0], 68 + to[1], 10, 8);
+            // The corner's edges go out to the first place and come back from the second.
+            boolean out = from[1] < 0 || (from[1] == 0 && from[0] > 0);
+            boolean back = to[1] > 0 || (to[1] == 0 && to[0] < 0);
+            checks.due("corner of the triangle " + n, got, out && back ? 1 : 0);
+            times += got;
+        }
+        checks.due("how many of the triangles about a middle have it", times, 1);
     }
 
     /** Covers of one pixel, the same for each order of the corners. */
@@ -102,6 +164,25 @@ public final class CoverTest {
         checks.due("it was not drawn", pipe.count(5), 0);
     }
 
+    /** The greatest triangles that are nothing, and those that just are not. */
+    private static void almostNothing() {
+        for (int off = -1; off <= 1; off++) {
+            PixelPipe pipe = new PixelPipe();
+            pipe.vertex(0, -800, -800, 0, 1);
+            pipe.vertex(1, 0, off, 0, 1);
+            pipe.vertex(2, 800, 800, 0, 1);
+            int passed = pipe.draw(1, 0, 3);
+            checks.due("corners in a row but for " + off, pipe.count(5), off == 0 ? 0 : 1);
+            checks.due("its pixels with " + off, passed > 0, off == -1);
+            pipe.set(9, 1);
+            pipe.draw(1, 0, 3);
+            checks.due("corners in a row but for " + off + ", CULL 1", pipe.count(5), off == -1 ? 1 : 0);
+            pipe.set(9, 2);
+            pipe.draw(1, 0, 3);
+            checks.due("corners in a row but for " + off + ", CULL 2", pipe.count(5), off == 1 ? 1 : 0);
+        }
+    }
+
     /** A triangle with CROSS 1 and sides of one eighth, its upper left corner on a middle. */
     private static void smallest() {
         PixelPipe pipe = new PixelPipe();
@@ -151,20 +232,73 @@ public final class CoverTest {
         }
     }
 
+    private static void noMiddleInside() {
+        PixelPipe pipe = new PixelPipe();
+        pipe.vertex(0, 5, 5, 0, 1);
+        pipe.vertex(1, 11, 5, 0, 1);
+        pipe.vertex(2, 11, 11, 0, 1);
+        pipe.vertex(3, 5, 11, 0, 1);
+        checks.due("a square between the middles", pipe.draw(3, 0, 4), 0);
+        checks.due("its pixels", pipe.count(0), 0);
+        checks.due("its triangles", pipe.count(5), 2);
+        pipe.vertex(0, 4, 4, 0, 1);
+        pipe.vertex(1, 11, 4, 0, 1);
+        pipe.vertex(3, 4, 11, 0, 1);
+        checks.due("with the upper left middle", pipe.draw(3, 0, 4), 1);
+        pipe.vertex(0, 5, 5, 0, 1);
+        pipe.vertex(1, 12, 5, 0, 1);
+        pipe.vertex(2, 12, 12, 0, 1);
+        pipe.vertex(3, 5, 12, 0, 1);
+        checks.due("up to the lower right middle", pipe.draw(3, 0, 4), 0);
+    }
+
+    /** Squares that end at the outermost middles, or one eighth beyond them. */
+    private static void outsideOfTheScreen() {
+        checks.due("left of the screen", square(-800, 0, 4, 128), 0);
+        checks.due("left, with the first middles", square(-800, 0, 5, 128), 16);
+        checks.due("right of the screen", square(189, 0, 800, 128), 0);
+        checks.due("right, with the last middles", square(188, 0, 800, 128), 16);
+        checks.due("above the screen", square(0, -800, 192, 4), 0);
+        checks.due("above, with the first middles", square(0, -800, 192, 5), 24);
+        checks.due("below the screen", square(0, 125, 192, 800), 0);
+        checks.due("below, with the last middles", square(0, 124, 192, 800), 24);
+        checks.due("far outside", square(-800, -800, -100, -100), 0);
+        checks.due("from end to end", square(-800, -800, 800, 800), 384);
+    }
+
+    private static int square(int left, int top, int right, int bottom) {
+        PixelPipe pipe = new PixelPipe();
+        pipe.vertex(0, left, top, 0, 1);
+        pipe.vertex(1, right, top, 0, 1);
+        pipe.vertex(2, right, bottom, 0, 1);
+        pipe.vertex(3, left, bottom, 0, 1);
+        int passed = pipe.draw(3, 0, 4);
+        checks.due("triangles of a square", pipe.count(5), 2);
+        checks.due("covered by a square", pipe.count(0), passed);
+        return passed;
+    }
+
     private static void pointPlaces() {
         PixelPipe pipe = new PixelPipe();
-        int[] places = {-800, -9, -8, -1, 0, 7, 8, 15, 184, 191, 192, 800};
-        for (int x : places) {
-            for (int y : places) {
-                if (x == 0 || y == 0 || x == 15 || y == 127) {
-                    pointPlace(pipe, x, y);
-                }
+        for (int x : new int[] {-9, -8, -1, 0, 7, 8, 15, 16, 183, 184, 191, 192, 199, 200}) {
+            pointPlace(pipe, x, 0);
+            pointPlace(pipe, x, 20);
+            pointPlace(pipe, x, 127);
+        }
+        for (int y : new int[] {-9, -8, -1, 0, 7, 8, 15, 16, 119, 120, 127, 128, 135, 136}) {
+            pointPlace(pipe, 0, y);
+            pointPlace(pipe, 20, y);
+            pointPlace(pipe, 191, y);
+        }
+    }
+
+    private static void pointsFarOutside() {
+        PixelPipe pipe = new PixelPipe();
+        for (int x : new int[] {-800, 4, 800}) {
+            for (int y : new int[] {-800, 4, 800}) {
+                pointPlace(pipe, x, y);
             }
         }
-        pointPlace(pipe, 20, 119);
-        pointPlace(pipe, 20, 120);
-        pointPlace(pipe, 20, 127);
-        pointPlace(pipe, 20, 128);
     }
 
     private static void pointPlace(PixelPipe pipe, int x, int y) {
@@ -174,6 +308,7 @@ public final class CoverTest {
         String where = " at " + x + ", " + y + " eighths";
         checks.due("point" + where, pipe.draw(0, 0, 1), onScreen ? 1 : 0);
         checks.due("covered by the point" + where, pipe.count(0), onScreen ? 1 : 0);
+        checks.due("drawn, wherever it is," + where, pipe.count(5), 1);
         if (onScreen) {
             checks.due("pixel of the point" + where, pipe.at(x / 8, y / 8, 0), 3);
         }

@@ -3,11 +3,12 @@ public final class DrawTest {
     private static final Checks checks = new Checks();
 
     public static void main(String[] args) {
-        modesThatAreNotThere();
-        verticesThatAreNotThere();
+        sumsThatWrap();
         edgesOfRanges();
-        refusedDrawChangesNothing();
+        noVertices();
         leftOverVertices();
+        allVertices();
+        lastVertices();
         triangles();
         strip();
         fan();
@@ -19,22 +20,13 @@ public final class DrawTest {
         checks.end();
     }
 
-    private static void modesThatAreNotThere() {
-        PixelPipe pipe = new PixelPipe();
-        int[] none = {-1, 4, Integer.MIN_VALUE, Integer.MAX_VALUE};
-        for (int mode : none) {
-            checks.refused("draw(" + mode + ", 0, 0)", pipe, pipe.draw(mode, 0, 0), PixelPipe.ENUM);
-            checks.refused("draw(" + mode + ", -1, 25)", pipe, pipe.draw(mode, -1, 25), PixelPipe.ENUM);
-        }
-    }
-
-    private static void verticesThatAreNotThere() {
+    /** first + count would be in the range if ints did not wrap, or if a number below 0 made up for another. */
+    private static void sumsThatWrap() {
         int least = Integer.MIN_VALUE;
         int most = Integer.MAX_VALUE;
         int[][] bad = {
-            {0, -1}, {0, 25}, {-1, 0}, {-1, 1}, {25, 0}, {24, 1}, {1, 24}, {23, 2}, {12, 13}, {-1, 25}, {25, -1},
-            {most, most}, {most, 1}, {1, most}, {least, least}, {least, most}, {0, most}, {0, least}, {most, 0},
-            {least, 0}, {24, least}};
+            {-1, 1}, {-1, 25}, {25, -1}, {24, 1}, {23, 2}, {1, 24}, {12, 13}, {most, most}, {most, 1}, {1, most},
+            {24, most}, {least, least}, {least, most}, {least + 1, most}, {most, least + 5}, {24, least}, {least, 24}};
         PixelPipe pipe = new PixelPipe();
         for (int mode = 0; mode < 4; mode++) {
             for (int[] n : bad) {
@@ -55,18 +47,18 @@ public final class DrawTest {
         checks.due("error()", pipe.error(), 0);
     }
 
-    private static void refusedDrawChangesNothing() {
+    /** Also with no vertices first must be from 0 to 24. */
+    private static void noVertices() {
         PixelPipe pipe = new PixelPipe();
-        Scenes.eighths(pipe, 0, 0, 0);
-        pipe.draw(1, 0, 3);
-        pipe.clear(1, 5);
-        pipe.draw(4, 0, 3);
-        pipe.draw(0, 0, 25);
-        pipe.draw(0, 23, 2);
-        checks.due("depth", pipe.at(0, 0, 0), 5);
-        checks.due("count(0)", pipe.count(0), 36);
-        checks.due("count(4)", pipe.count(4), 36);
-        checks.due("count(5)", pipe.count(5), 1);
+        for (int mode = 0; mode < 4; mode++) {
+            checks.due("draw(" + mode + ", 0, 0)", pipe.draw(mode, 0, 0), 0);
+            checks.due("draw(" + mode + ", 24, 0)", pipe.draw(mode, 24, 0), 0);
+            checks.due("error() after both", pipe.error(), 0);
+            for (int first : new int[] {-1, 25, Integer.MIN_VALUE, Integer.MAX_VALUE}) {
+                String call = "draw(" + mode + ", " + first + ", 0)";
+                checks.refused(call, pipe, pipe.draw(mode, first, 0), PixelPipe.VALUE);
+            }
+        }
     }
 
     private static void leftOverVertices() {
@@ -81,6 +73,35 @@ public final class DrawTest {
                 int want = mode == 1 ? count / 3 : Math.max(0, count - 2);
                 checks.due("triangles of draw(" + mode + ", 2, " + count + ")", pipe.count(5), want);
             }
+        }
+    }
+
+    /** All 24 vertices on a bow, so that no three of them lie in a row. */
+    private static void allVertices() {
+        int[] want = {24, 8, 22, 22};
+        for (int mode = 0; mode < 4; mode++) {
+            PixelPipe pipe = new PixelPipe();
+            for (int i = 0; i < 24; i++) {
+                pipe.vertex(i, 8 * i, i * i, 0, 1);
+            }
+            pipe.draw(mode, 0, 24);
+            checks.due("how many draw(" + mode + ", 0, 24) has", pipe.count(5), want[mode]);
+        }
+    }
+
+    /** The last vertices that there are: the last one gives its colour. */
+    private static void lastVertices() {
+        for (int mode = 1; mode < 4; mode++) {
+            PixelPipe pipe = new PixelPipe();
+            pipe.vertex(21, 0, 0, 0, 1);
+            pipe.vertex(22, 64, 0, 0, 1);
+            pipe.vertex(23, 0, 64, 0, 1);
+            pipe.paint(23, 8, 7, 6, 5);
+            pipe.set(11, 1);
+            checks.due("draw(" + mode + ", 21, 3)", pipe.draw(mode, 21, 3), 28);
+            checks.due("its colour", pipe.pixel(0, 0), Scenes.colour(8, 7, 6));
+            checks.due("draw(" + mode + ", 22, 2)", pipe.draw(mode, 22, 2), 0);
+            checks.refused("draw(" + mode + ", 22, 3)", pipe, pipe.draw(mode, 22, 3), PixelPipe.VALUE);
         }
     }
 

@@ -4,13 +4,23 @@ public final class PixelTestsTest {
 
     public static void main(String[] args) {
         compares();
+        depthsComparedAtTheEnds();
+        stencilsComparedAtTheEnds();
         operations();
+        operationTwoIsRef();
+        operationsStopAtTheEnds();
+        operationAfterTheComparison();
         stencilComesFirst();
         whatIsStoppedChangesNothingElse();
         depthMask();
         colourMask();
         blends();
         blendEdges();
+        blendByAlphaAtTheEnds();
+        blendSumAtTheEnds();
+        blendProductAtTheEnds();
+        blendDifferenceAtTheEnds();
+        maskOfNoChannelPasses();
         checks.end();
     }
 
@@ -42,6 +52,38 @@ public final class PixelTestsTest {
         }
     }
 
+    private static void depthsComparedAtTheEnds() {
+        for (int how = 0; how < 8; how++) {
+            PixelPipe pipe = new PixelPipe();
+            pipe.set(0, how);
+            for (int z : new int[] {0, 1, 1022, 1023}) {
+                for (int depth : new int[] {0, 1, 1022, 1023}) {
+                    pipe.clear(1, depth);
+                    pipe.vertex(0, 0, 0, z, 1);
+                    boolean so = isSo(how, z, depth);
+                    String told = "depth " + z + " compared with " + depth + " by " + how;
+                    checks.due(told, pipe.draw(0, 0, 1), so ? 1 : 0);
+                    checks.due(told + ": the depth then", pipe.at(0, 0, 0), so ? z : depth);
+                }
+            }
+        }
+    }
+
+    private static void stencilsComparedAtTheEnds() {
+        for (int how = 0; how < 8; how++) {
+            PixelPipe pipe = new PixelPipe();
+            pipe.set(2, how);
+            for (int ref : new int[] {0, 1, 14, 15}) {
+                for (int stencil : new int[] {0, 1, 14, 15}) {
+                    pipe.clear(2, stencil);
+                    pipe.set(3, ref);
+                    checks.due("REF " + ref + " compared with " + stencil + " by " + how,
+                            pipe.draw(0, 0, 1), isSo(how, ref, stencil) ? 1 : 0);
+                }
+            }
+        }
+    }
+
     private static int operated(int operation, int old, int ref) {
         int[] want = {old, 0, ref, Math.min(15, old + 1), Math.max(0, old - 1), 15 - old};
         return want[operation];
@@ -67,6 +109,54 @@ public final class PixelTestsTest {
                 }
             }
         }
+    }
+
+    private static void operationTwoIsRef() {
+        PixelPipe pipe = new PixelPipe();
+        pipe.set(6, 2);
+        for (int ref = 0; ref < 16; ref++) {
+            pipe.clear(2, 15 - ref);
+            pipe.set(3, ref);
+            pipe.draw(0, 0, 1);
+            checks.due("stencil by operation as 2 with REF " + ref, pipe.at(0, 0, 1), ref);
+        }
+    }
+
+    private static void operationsStopAtTheEnds() {
+        PixelPipe pipe = new PixelPipe();
+        pipe.clear(2, 13);
+        pipe.set(6, 3);
+        for (int want : new int[] {14, 15, 15, 15}) {
+            pipe.draw(0, 0, 1);
+            checks.due("one more, at most 15", pipe.at(0, 0, 1), want);
+        }
+        pipe.clear(2, 2);
+        pipe.set(6, 4);
+        for (int want : new int[] {1, 0, 0, 0}) {
+            pipe.draw(0, 0, 1);
+            checks.due("one less, at least 0", pipe.at(0, 0, 1), want);
+        }
+        pipe.set(6, 5);
+        for (int want : new int[] {15, 0, 15}) {
+            pipe.draw(0, 0, 1);
+            checks.due("15 less itself", pipe.at(0, 0, 1), want);
+        }
+    }
+
+    /** Two points at one place: what the first one did to stencil and depth counts for the second. */
+    private static void operationAfterTheComparison() {
+        PixelPipe pipe = new PixelPipe();
+        pipe.set(2, 2);
+        pipe.set(6, 3);
+        checks.due("the second is stopped by the stencil", pipe.draw(0, 0, 2), 1);
+        checks.due("its stencil", pipe.at(0, 0, 1), 1);
+        checks.due("stopped", pipe.count(2), 1);
+        PixelPipe other = new PixelPipe();
+        other.set(0, 1);
+        other.set(5, 3);
+        checks.due("the second is stopped by the depth", other.draw(0, 0, 2), 1);
+        checks.due("its stencil", other.at(0, 0, 1), 1);
+        checks.due("stopped", other.count(3), 1);
     }
 
     private static void stencilComesFirst() {
@@ -167,5 +257,64 @@ public final class PixelTestsTest {
         pipe.paint(0, 99, 201, 1, 0);
         pipe.draw(0, 0, 1);
         checks.due("the difference", pipe.pixel(0, 0), Scenes.colour(1, 0, 0));
+    }
+
+    /** One channel after a point of colour fresh and alpha was drawn on the channel old. */
+    private static int drawnOn(int blend, int fresh, int old, int alpha) {
+        PixelPipe pipe = new PixelPipe();
+        pipe.clear(0, Scenes.colour(old, old, old));
+        pipe.set(7, blend);
+        pipe.paint(0, fresh, fresh, fresh, alpha);
+        pipe.draw(0, 0, 1);
+        int got = pipe.pixel(0, 0);
+        checks.due("all three channels alike", got, Scenes.colour(got & 255, got & 255, got & 255));
+        return got & 255;
+    }
+
+    private static void blendByAlphaAtTheEnds() {
+        checks.due("alpha 0 leaves the old one", drawnOn(1, 255, 3, 0), 3);
+        checks.due("alpha 255 takes the new one", drawnOn(1, 3, 255, 255), 3);
+        checks.due("alpha 1 of 255 on 0", drawnOn(1, 255, 0, 1), 1);
+        checks.due("alpha 1 of 254 on 0", drawnOn(1, 254, 0, 1), 0);
+        checks.due("alpha 254 of 0 on 255", drawnOn(1, 0, 255, 254), 1);
+        checks.due("alpha 254 of 0 on 254", drawnOn(1, 0, 254, 254), 0);
+        checks.due("255 on 255", drawnOn(1, 255, 255, 128), 255);
+        checks.due("0 on 0", drawnOn(1, 0, 0, 128), 0);
+    }
+
+    private static void blendSumAtTheEnds() {
+        checks.due("254 + 0", drawnOn(2, 254, 0, 9), 254);
+        checks.due("254 + 1", drawnOn(2, 254, 1, 9), 255);
+        checks.due("255 + 1", drawnOn(2, 255, 1, 9), 255);
+        checks.due("128 + 128", drawnOn(2, 128, 128, 9), 255);
+        checks.due("255 + 255", drawnOn(2, 255, 255, 9), 255);
+        checks.due("0 + 0", drawnOn(2, 0, 0, 9), 0);
+    }
+
+    private static void blendProductAtTheEnds() {
+        checks.due("255 * 255", drawnOn(3, 255, 255, 9), 255);
+        checks.due("255 * 1", drawnOn(3, 255, 1, 9), 1);
+        checks.due("254 * 1", drawnOn(3, 254, 1, 9), 0);
+        checks.due("0 * 255", drawnOn(3, 0, 255, 9), 0);
+        checks.due("254 * 254", drawnOn(3, 254, 254, 9), 253);
+    }
+
+    private static void blendDifferenceAtTheEnds() {
+        checks.due("100 - 99", drawnOn(4, 99, 100, 9), 1);
+        checks.due("100 - 100", drawnOn(4, 100, 100, 9), 0);
+        checks.due("100 - 101", drawnOn(4, 101, 100, 9), 0);
+        checks.due("0 - 255", drawnOn(4, 255, 0, 9), 0);
+        checks.due("255 - 0", drawnOn(4, 0, 255, 9), 255);
+    }
+
+    /** Masks hide what is written, not that the pixel passed. */
+    private static void maskOfNoChannelPasses() {
+        PixelPipe pipe = new PixelPipe();
+        pipe.set(8, 0);
+        pipe.set(1, 0);
+        pipe.paint(0, 1, 2, 3, 4);
+        checks.due("passed with both MASKs 0", pipe.draw(0, 0, 1), 1);
+        checks.due("its pixel", pipe.pixel(0, 0), 0);
+        checks.due("its depth", pipe.at(0, 0, 0), 1023);
     }
 }

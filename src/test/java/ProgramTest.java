@@ -6,6 +6,11 @@ public final class ProgramTest {
 
     public static void main(String[] args) {
         arithmetic();
+        productsWrapBeforeTheShift();
+        productsKeepTheirSign();
+        sumsWrap();
+        lesserAndGreaterOfFarInts();
+        intsOfAStep();
         choose();
         channels();
         texelWraps();
@@ -15,7 +20,10 @@ public final class ProgramTest {
         ends();
         registersBeginAnew();
         registersOfTriangles();
+        registersAtTheEnds();
+        killAtTheFirstAndTheLastStep();
         depthIsNotTheRegister();
+        stencilAndDepthOfAKilledPixelStay();
         checks.end();
     }
 
@@ -44,10 +52,55 @@ public final class ProgramTest {
                 computes(5, a, b, 5, Math.max(a, b));
             }
         }
+    }
+
+    private static void productsWrapBeforeTheShift() {
         computes(3, 65536, 65536, 0, 0);
         computes(3, 65536, 32768, 0, -8388608);
+        computes(3, 65536, 32767, 0, 8388352);
+        computes(3, 46340, 46340, 0, 8388264);
+        computes(3, 46341, 46341, 0, -8388590);
+        computes(3, LEAST, -1, 0, -8388608);
+        computes(3, MOST, MOST, 0, 0);
+        computes(3, MOST, 2, 0, -1);
+    }
+
+    private static void productsKeepTheirSign() {
         computes(3, -1, 1, 0, -1);
+        computes(3, -1, 255, 0, -1);
+        computes(3, -1, 256, 0, -1);
+        computes(3, -1, 257, 0, -2);
+        computes(3, 1, 255, 0, 0);
+        computes(3, 1, 256, 0, 1);
         computes(3, 300, 200, 0, 234);
+    }
+
+    private static void sumsWrap() {
+        computes(1, MOST, 1, 0, LEAST);
+        computes(1, MOST - 1, 1, 0, MOST);
+        computes(1, LEAST, -1, 0, MOST);
+        computes(2, LEAST, 1, 0, MOST);
+        computes(2, MOST, -1, 0, LEAST);
+        computes(2, 0, LEAST, 0, LEAST);
+        computes(2, 0, MOST, 0, LEAST + 1);
+    }
+
+    /** A difference that wraps must not decide which one is lesser or greater. */
+    private static void lesserAndGreaterOfFarInts() {
+        computes(4, LEAST, MOST, 0, LEAST);
+        computes(4, MOST, LEAST, 0, LEAST);
+        computes(5, LEAST, MOST, 0, MOST);
+        computes(5, MOST, LEAST, 0, MOST);
+        computes(4, 7, 7, 0, 7);
+        computes(5, 7, 7, 0, 7);
+    }
+
+    private static void intsOfAStep() {
+        for (int v : new int[] {LEAST, LEAST + 1, -1, 0, 1, 8, 255, 256, MOST - 1, MOST}) {
+            PixelPipe pipe = new PixelPipe();
+            pipe.step(8, 2, v, 0);
+            checks.due("the int " + v, Scenes.registerIs(pipe, 1, 2, v), true);
+        }
     }
 
     private static void choose() {
@@ -198,6 +251,46 @@ public final class ProgramTest {
         pipe.draw(1, 0, 3);
         checks.due("x and z of a triangle's pixel", pipe.pixel(3, 2), Scenes.colour(3, 70, 0));
         checks.due("x and z of another", pipe.pixel(0, 7), Scenes.colour(0, 140, 0));
+    }
+
+    private static void registersAtTheEnds() {
+        for (int x : new int[] {0, 1, 22, 23}) {
+            for (int z : new int[] {0, 1, 1022, 1023}) {
+                PixelPipe pipe = new PixelPipe();
+                Scenes.point(pipe, 0, x, 15, z);
+                checks.due("x " + x + " in register 6", Scenes.registerIs(pipe, 0, 6, x), true);
+                checks.due("z " + z + " in register 7", Scenes.registerIs(pipe, 0, 7, z), true);
+            }
+        }
+    }
+
+    private static void killAtTheFirstAndTheLastStep() {
+        for (int at = 0; at < 10; at++) {
+            PixelPipe pipe = new PixelPipe();
+            pipe.coords(0, -1, 0);
+            for (int n = 0; n < 10; n++) {
+                pipe.step(n == at ? 9 : 0, 1, 4, 0);
+            }
+            checks.due("kill by step " + at + " of ten", pipe.draw(0, 0, 1), 0);
+            checks.due("killed by step " + at + " of ten", pipe.count(1), 1);
+            pipe.coords(0, 0, 0);
+            checks.due("no kill by step " + at + " of ten", pipe.draw(0, 0, 1), 1);
+        }
+    }
+
+    private static void stencilAndDepthOfAKilledPixelStay() {
+        for (int setting = 4; setting <= 6; setting++) {
+            PixelPipe pipe = new PixelPipe();
+            pipe.clear(2, 7);
+            pipe.set(setting, 1);
+            pipe.set(2, setting == 4 ? 0 : 7);
+            pipe.set(0, setting == 5 ? 0 : 7);
+            pipe.step(8, 0, -1, 0);
+            pipe.step(9, 0, 0, 0);
+            pipe.draw(0, 0, 1);
+            checks.due("stencil of a killed pixel", pipe.at(0, 0, 1), 7);
+            checks.due("depth of a killed pixel", pipe.at(0, 0, 0), 1023);
+        }
     }
 
     private static void depthIsNotTheRegister() {

@@ -1,38 +1,53 @@
-/** Promise 7: scissor. */
+/** Promise 7: scissor. Its ranges one by one are in RangesTest. */
 public final class ScissorTest {
     private static final int LEAST = Integer.MIN_VALUE;
     private static final int MOST = Integer.MAX_VALUE;
     private static final Checks checks = new Checks();
 
     public static void main(String[] args) {
-        edges();
+        sumsThatWrap();
+        beyondTheScreenWithoutPixels();
         boundsClear();
         boundsTriangles();
         boundsPoints();
-        emptyScissor();
-        refusedScissorChangesNothing();
+        onePixel();
+        wholeScreen();
+        noWidth();
+        noHeight();
+        laterScissorIsTheOneThatCounts();
+        refusedScissorKeepsTheOldOne();
         checks.end();
     }
 
-    private static void edges() {
-        int[][] good = {
-            {0, 0, 24, 16}, {0, 0, 0, 0}, {24, 16, 0, 0}, {24, 0, 0, 16}, {0, 16, 24, 0}, {23, 15, 1, 1}};
+    /** x + w or y + h would be on the screen if ints did not wrap, or if a number below 0 made up for another. */
+    private static void sumsThatWrap() {
         int[][] bad = {
-            {-1, 0, 1, 1}, {0, -1, 1, 1}, {0, 0, -1, 1}, {0, 0, 1, -1}, {5, 5, -1, 1},
-            {0, 0, 25, 1}, {0, 0, 1, 17}, {1, 0, 24, 1}, {0, 1, 1, 16}, {24, 0, 1, 1}, {0, 16, 1, 1},
-            {25, 0, 0, 0}, {0, 17, 0, 0}, {25, 0, -1, 0}, {0, 17, 0, -1},
-            {MOST, 0, 1, 1}, {MOST, 0, MOST, 1}, {1, 0, MOST, 1}, {LEAST, 0, MOST, 1}, {LEAST, 0, LEAST, 1},
-            {0, MOST, 1, 1}, {0, MOST, 1, MOST}, {0, 1, 1, MOST}, {0, LEAST, 1, MOST}, {0, LEAST, 1, LEAST},
-            {0, 0, LEAST, 1}, {0, 0, 1, LEAST}};
+            {MOST, 0, MOST, 1}, {1, 0, MOST, 1}, {24, 0, MOST, 1}, {MOST, 0, 1, 1}, {LEAST, 0, MOST, 1},
+            {LEAST, 0, LEAST, 1}, {LEAST + 1, 0, MOST, 1}, {MOST, 0, LEAST + 5, 1}, {-1, 0, 1, 1}, {5, 0, -1, 1},
+            {0, MOST, 1, MOST}, {0, 1, 1, MOST}, {0, 16, 1, MOST}, {0, MOST, 1, 1}, {0, LEAST, 1, MOST},
+            {0, LEAST, 1, LEAST}, {0, LEAST + 1, 1, MOST}, {0, MOST, 1, LEAST + 5}, {0, -1, 1, 1}, {0, 5, 1, -1}};
         PixelPipe pipe = new PixelPipe();
+        for (int[] n : bad) {
+            refused(pipe, n);
+        }
+    }
+
+    private static void beyondTheScreenWithoutPixels() {
+        PixelPipe pipe = new PixelPipe();
+        int[][] good = {{24, 16, 0, 0}, {24, 0, 0, 16}, {0, 16, 24, 0}, {0, 0, 0, 0}, {23, 15, 1, 1}};
         for (int[] n : good) {
             checks.due("scissor " + java.util.Arrays.toString(n), pipe.scissor(n[0], n[1], n[2], n[3]), true);
             checks.due("error() after it", pipe.error(), 0);
         }
+        int[][] bad = {{25, 0, 0, 0}, {0, 17, 0, 0}, {25, 0, -1, 0}, {0, 17, 0, -1}, {24, 16, 1, 0}, {24, 16, 0, 1}};
         for (int[] n : bad) {
-            boolean got = pipe.scissor(n[0], n[1], n[2], n[3]);
-            checks.refused("scissor " + java.util.Arrays.toString(n), pipe, got, PixelPipe.VALUE);
+            refused(pipe, n);
         }
+    }
+
+    private static void refused(PixelPipe pipe, int[] n) {
+        boolean got = pipe.scissor(n[0], n[1], n[2], n[3]);
+        checks.refused("scissor " + java.util.Arrays.toString(n), pipe, got, PixelPipe.VALUE);
     }
 
     private static boolean isInside(int x, int y) {
@@ -78,25 +93,86 @@ public final class ScissorTest {
             for (int x = 0; x < 12; x++) {
                 Scenes.point(pipe, 0, x, y, 0);
                 checks.due("point at " + x + ", " + y, pipe.draw(0, 0, 1), isInside(x, y) ? 1 : 0);
+                checks.due("covered at " + x + ", " + y, pipe.count(0), isInside(x, y) ? 1 : 0);
+                checks.due("drawn at " + x + ", " + y, pipe.count(5), 1);
             }
         }
     }
 
-    private static void emptyScissor() {
-        PixelPipe pipe = new PixelPipe();
-        Scenes.rectangle(pipe, 0, 0, 0, 24, 16);
-        pipe.scissor(5, 5, 0, 3);
-        pipe.clear(0, 1);
-        checks.due("triangles with a scissor of no width", pipe.draw(3, 0, 4), 0);
-        pipe.scissor(0, 0, 3, 0);
-        pipe.clear(0, 1);
-        checks.due("points with a scissor of no height", pipe.draw(0, 0, 4), 0);
-        checks.due("points that were drawn all the same", pipe.count(5), 4);
-        checks.due("pixel(5, 5)", pipe.pixel(5, 5), 0);
-        checks.due("pixel(0, 0)", pipe.pixel(0, 0), 0);
+    private static void onePixel() {
+        int[][] places = {{0, 0}, {23, 0}, {0, 15}, {23, 15}, {7, 9}};
+        for (int[] n : places) {
+            PixelPipe pipe = new PixelPipe();
+            Scenes.rectangle(pipe, 0, 0, 0, 24, 16);
+            pipe.scissor(n[0], n[1], 1, 1);
+            checks.due("the screen drawn in one pixel", pipe.draw(3, 0, 4), 1);
+            checks.due("its depth", pipe.at(n[0], n[1], 0), 0);
+            Scenes.point(pipe, 5, n[0], n[1], 0);
+            checks.due("a point in the one pixel", pipe.draw(0, 5, 1), 1);
+            pipe.clear(0, 3);
+            int beside = n[0] == 0 ? 1 : n[0] - 1;
+            checks.due("the one pixel", pipe.pixel(n[0], n[1]), 3);
+            checks.due("the pixel beside it", pipe.pixel(beside, n[1]), 0);
+            checks.due("the depth beside it", pipe.at(beside, n[1], 0), 1023);
+        }
     }
 
-    private static void refusedScissorChangesNothing() {
+    private static void wholeScreen() {
+        PixelPipe pipe = new PixelPipe();
+        Scenes.rectangle(pipe, 0, -1, -1, 26, 18);
+        pipe.scissor(5, 5, 1, 1);
+        pipe.scissor(0, 0, 24, 16);
+        checks.due("more than the screen drawn in the whole of it", pipe.draw(3, 0, 4), 384);
+    }
+
+    private static void noWidth() {
+        for (int x : new int[] {0, 5, 23, 24}) {
+            noPixels(x, 3, 0, 5);
+        }
+    }
+
+    private static void noHeight() {
+        for (int y : new int[] {0, 5, 15, 16}) {
+            noPixels(3, y, 5, 0);
+        }
+    }
+
+    private static void noPixels(int x, int y, int w, int h) {
+        PixelPipe pipe = new PixelPipe();
+        Scenes.rectangle(pipe, 0, 0, 0, 24, 16);
+        Scenes.point(pipe, 4, 3, 3, 0);
+        String told = "scissor(" + x + ", " + y + ", " + w + ", " + h + "): ";
+        checks.due(told, pipe.scissor(x, y, w, h), true);
+        checks.due(told + "triangles", pipe.draw(3, 0, 4), 0);
+        checks.due(told + "pixels of triangles", pipe.count(0), 0);
+        checks.due(told + "triangles drawn all the same", pipe.count(5), 2);
+        checks.due(told + "points", pipe.draw(0, 0, 5), 0);
+        checks.due(told + "pixels of points", pipe.count(0), 0);
+        checks.due(told + "points drawn all the same", pipe.count(5), 5);
+        checks.due(told + "clear of colours", pipe.clear(0, 1), true);
+        checks.due(told + "clear of depths", pipe.clear(1, 1), true);
+        checks.due(told + "clear of stencils", pipe.clear(2, 1), true);
+        checks.refused(told + "clear to no colour", pipe, pipe.clear(0, 16777216), PixelPipe.VALUE);
+        for (int px : new int[] {0, 3, 5, 22, 23}) {
+            for (int py : new int[] {0, 3, 5, 14, 15}) {
+                checks.due(told + "colour at " + px + ", " + py, pipe.pixel(px, py), 0);
+                checks.due(told + "depth at " + px + ", " + py, pipe.at(px, py, 0), 1023);
+                checks.due(told + "stencil at " + px + ", " + py, pipe.at(px, py, 1), 0);
+            }
+        }
+    }
+
+    private static void laterScissorIsTheOneThatCounts() {
+        PixelPipe pipe = new PixelPipe();
+        pipe.scissor(0, 0, 2, 2);
+        pipe.scissor(1, 1, 2, 2);
+        pipe.clear(0, 4);
+        checks.due("pixel of the earlier scissor", pipe.pixel(0, 0), 0);
+        checks.due("pixel of both", pipe.pixel(1, 1), 4);
+        checks.due("pixel of the later scissor", pipe.pixel(2, 2), 4);
+    }
+
+    private static void refusedScissorKeepsTheOldOne() {
         PixelPipe pipe = new PixelPipe();
         pipe.scissor(1, 1, 2, 2);
         pipe.scissor(0, 0, 24, 17);

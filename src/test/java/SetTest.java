@@ -1,40 +1,16 @@
-/** Promise 6: set. */
+/** Promise 6: set. Its ranges are in RangesTest, what most settings do in PixelTestsTest, DrawTest and ProgramTest. */
 public final class SetTest {
-    private static final int[] GREATEST = {7, 1, 7, 15, 5, 5, 5, 4, 7, 2, 2, 1};
     private static final Checks checks = new Checks();
 
     public static void main(String[] args) {
-        ranges();
-        settingsThatAreNotThere();
-        refusedSetChangesNothing();
+        refusedSetKeepsTheOldOne();
         settingsAreApart();
+        settingsAreSetAnew();
+        refAtTheEnds();
         checks.end();
     }
 
-    private static void ranges() {
-        for (int setting = 0; setting < 12; setting++) {
-            PixelPipe pipe = new PixelPipe();
-            for (int v = 0; v <= GREATEST[setting]; v++) {
-                checks.due("set(" + setting + ", " + v + ")", pipe.set(setting, v), true);
-                checks.due("error() after it", pipe.error(), 0);
-            }
-            int[] bad = {-1, GREATEST[setting] + 1, Integer.MIN_VALUE, Integer.MAX_VALUE};
-            for (int v : bad) {
-                checks.refused("set(" + setting + ", " + v + ")", pipe, pipe.set(setting, v), PixelPipe.VALUE);
-            }
-        }
-    }
-
-    private static void settingsThatAreNotThere() {
-        PixelPipe pipe = new PixelPipe();
-        int[] none = {-1, 12, Integer.MIN_VALUE, Integer.MAX_VALUE};
-        for (int setting : none) {
-            checks.refused("set(" + setting + ", 0)", pipe, pipe.set(setting, 0), PixelPipe.ENUM);
-            checks.refused("set(" + setting + ", -1)", pipe, pipe.set(setting, -1), PixelPipe.ENUM);
-        }
-    }
-
-    private static void refusedSetChangesNothing() {
+    private static void refusedSetKeepsTheOldOne() {
         PixelPipe pipe = new PixelPipe();
         pipe.set(6, 2);
         pipe.set(3, 11);
@@ -58,5 +34,24 @@ public final class SetTest {
         pipe.set(2, 0);
         pipe.draw(0, 0, 1);
         checks.due("stencil after operation 0", pipe.at(0, 0, 1), 0);
+    }
+
+    private static void settingsAreSetAnew() {
+        PixelPipe pipe = new PixelPipe();
+        pipe.set(0, 0);
+        checks.due("depths are never so", pipe.draw(0, 0, 1), 0);
+        pipe.set(0, 7);
+        checks.due("depths are always so", pipe.draw(0, 0, 1), 1);
+    }
+
+    private static void refAtTheEnds() {
+        PixelPipe pipe = new PixelPipe();
+        pipe.set(6, 2);
+        for (int ref : new int[] {0, 1, 14, 15}) {
+            pipe.clear(2, 7);
+            pipe.set(3, ref);
+            pipe.draw(0, 0, 1);
+            checks.due("stencil by REF " + ref, pipe.at(0, 0, 1), ref);
+        }
     }
 }

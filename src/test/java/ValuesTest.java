@@ -6,6 +6,10 @@ public final class ValuesTest {
         depthIsWithoutPerspective();
         coloursHavePerspective();
         coordsAreRoundedDownwards();
+        roundedJustBelowAndJustAt();
+        roundedDownwardsBelowZero();
+        equalValuesStay();
+        cornersHaveTheirOwnValues();
         turnedTriangleHasTheSameValues();
         pointHasTheValuesOfItsVertex();
         flatTriangles();
@@ -81,6 +85,80 @@ public final class ValuesTest {
         }
     }
 
+    /** At 1, 1 the weights are as 6, 1, 1: the sums are one less than, just, and one more than a multiple of 8. */
+    private static void roundedJustBelowAndJustAt() {
+        int[][] some = {{79, 9}, {80, 10}, {81, 10}, {7, 0}, {8, 1}, {0, 0}};
+        for (int[] n : some) {
+            PixelPipe pipe = new PixelPipe();
+            Scenes.eighths(pipe, 0, n[0], 0);
+            pipe.paint(1, n[0], 0, 0, 0);
+            pipe.draw(1, 0, 3);
+            checks.due("depth of " + n[0] + " by 8", pipe.at(1, 1, 0), n[1]);
+            checks.due("colour of " + n[0] + " by 8", pipe.pixel(1, 1), Scenes.colour(n[1], 0, 0));
+        }
+    }
+
+    private static void roundedDownwardsBelowZero() {
+        int[][] some = {{-79, -10}, {-80, -10}, {-81, -11}, {-1, -1}, {-8, -1}, {-9, -2}, {0, 0}};
+        for (int[] n : some) {
+            PixelPipe pipe = new PixelPipe();
+            Scenes.eighths(pipe, 0, 0, 0);
+            pipe.coords(1, n[0], 0);
+            pipe.coords(2, 0, n[0]);
+            pipe.step(8, 6, 128, 0);
+            pipe.step(1, 0, 4, 6);
+            pipe.step(1, 1, 5, 6);
+            pipe.draw(1, 0, 3);
+            checks.due("s and t of " + n[0] + " by 8", pipe.pixel(1, 1), Scenes.colour(128 + n[1], 128 + n[1], 0));
+        }
+    }
+
+    /** Whatever the weights and q are, a value that is the same at each vertex is not changed by a rounding. */
+    private static void equalValuesStay() {
+        for (int v : new int[] {0, 1, 254, 255}) {
+            PixelPipe pipe = new PixelPipe();
+            pipe.vertex(0, -800, -799, 4 * v, 64);
+            pipe.vertex(1, 800, -797, 4 * v, 1);
+            pipe.vertex(2, 3, 800, 4 * v, 37);
+            for (int i = 0; i < 3; i++) {
+                pipe.paint(i, v, v, v, v);
+                pipe.coords(i, -1000, 1000);
+            }
+            checks.due("a triangle about the screen", pipe.draw(1, 0, 3), 384);
+            for (int x = 0; x < Scenes.WIDTH; x++) {
+                checks.due("colour of " + v + " everywhere", pipe.pixel(x, x % 16), Scenes.colour(v, v, v));
+                checks.due("depth of " + v + " everywhere", pipe.at(x, x % 16, 0), 4 * v);
+            }
+            pipe.step(8, 6, 1000, 0);
+            pipe.step(1, 4, 4, 6);
+            pipe.step(2, 5, 5, 6);
+            pipe.step(9, 0, 4, 0);
+            pipe.step(9, 0, 5, 0);
+            checks.due("s is at least -1000 and t at least 1000 everywhere", pipe.draw(1, 0, 3), 384);
+            pipe.keep(3);
+            pipe.step(8, 6, 0, 0);
+            pipe.step(2, 4, 6, 4);
+            pipe.step(2, 5, 6, 5);
+            pipe.step(9, 0, 4, 0);
+            pipe.step(9, 0, 5, 0);
+            checks.due("s is at most -1000 and t at most 1000 everywhere", pipe.draw(1, 0, 3), 384);
+        }
+    }
+
+    /** At the middle on a corner the two other weights are 0. */
+    private static void cornersHaveTheirOwnValues() {
+        PixelPipe pipe = new PixelPipe();
+        pipe.vertex(0, 4, 4, 1023, 1);
+        pipe.vertex(1, 68, 4, 0, 64);
+        pipe.vertex(2, 4, 68, 0, 64);
+        pipe.paint(0, 255, 254, 1, 0);
+        pipe.paint(1, 0, 0, 255, 255);
+        pipe.paint(2, 0, 0, 255, 255);
+        pipe.draw(1, 0, 3);
+        checks.due("colour at the corner", pipe.pixel(0, 0), Scenes.colour(255, 254, 1));
+        checks.due("depth at the corner", pipe.at(0, 0, 0), 1023);
+    }
+
     private static void turnedTriangleHasTheSameValues() {
         PixelPipe pipe = new PixelPipe();
         pipe.vertex(0, 4, 4, 80, 1);
@@ -144,21 +222,30 @@ public final class ValuesTest {
         checks.due("flat: pixel of the turned triangle", pipe.pixel(1, 1), Scenes.colour(21, 22, 23));
     }
 
+    /** The same square as a strip and as a fan, once of FRONT triangles and once of turned ones. */
     private static void flatStripAndFan() {
+        int[][] corners = {{0, 0}, {64, 0}, {64, 64}, {0, 64}};
+        int[][] strips = {{0, 1, 3, 2}, {0, 3, 1, 2}};
+        int[][] fans = {{0, 1, 2, 3}, {0, 3, 2, 1}};
+        for (int turned = 0; turned < 2; turned++) {
+            flatSquare(2, turned, corners, strips[turned], new int[] {0, 0, 7, 7});
+            flatSquare(3, turned, corners, fans[turned], turned == 0 ? new int[] {7, 0, 0, 7} : new int[] {0, 7, 7, 0});
+        }
+    }
+
+    private static void flatSquare(int mode, int turned, int[][] corners, int[] order, int[] places) {
         PixelPipe pipe = new PixelPipe();
-        pipe.vertex(0, 0, 0, 0, 1);
-        pipe.vertex(1, 0, 64, 0, 1);
-        pipe.vertex(2, 64, 0, 0, 1);
-        pipe.vertex(3, 64, 64, 0, 1);
+        for (int i = 0; i < 4; i++) {
+            pipe.vertex(i, corners[order[i]][0], corners[order[i]][1], 0, 1);
+        }
         paintThree(pipe);
         pipe.paint(3, 31, 32, 33, 34);
-        checks.due("flat strip", pipe.draw(2, 0, 4), 64);
-        checks.due("flat strip: first triangle", pipe.pixel(0, 0), Scenes.colour(21, 22, 23));
-        checks.due("flat strip: second triangle", pipe.pixel(7, 7), Scenes.colour(31, 32, 33));
-        Scenes.rectangle(pipe, 0, 0, 0, 8, 8);
-        checks.due("flat fan", pipe.draw(3, 0, 4), 64);
-        checks.due("flat fan: first triangle", pipe.pixel(7, 0), Scenes.colour(21, 22, 23));
-        checks.due("flat fan: second triangle", pipe.pixel(0, 7), Scenes.colour(31, 32, 33));
+        String told = "flat, mode " + mode + ", turned " + turned;
+        // That the one and not the other kind is culled shows that all are FRONT, or that all are turned.
+        pipe.set(9, turned == 0 ? 1 : 2);
+        checks.due(told, pipe.draw(mode, 0, 4), 64);
+        checks.due(told + ": first triangle", pipe.pixel(places[0], places[1]), Scenes.colour(21, 22, 23));
+        checks.due(told + ": second triangle", pipe.pixel(places[2], places[3]), Scenes.colour(31, 32, 33));
     }
 
     private static void flatPoints() {

@@ -1,41 +1,20 @@
-/** Promises 2 to 5: vertex, paint, coords and texel. */
+/** Promises 2 to 5: what vertex, paint, coords and texel set, also at the ends of their ranges. */
 public final class VertexDataTest {
-    private static final int LEAST = Integer.MIN_VALUE;
-    private static final int MOST = Integer.MAX_VALUE;
     private static final Checks checks = new Checks();
 
     public static void main(String[] args) {
-        vertexEdges();
         vertexIsKept();
-        refusedVertexChangesNothing();
-        paintEdges();
+        vertexIsSetAnew();
+        placesAtTheEnds();
+        depthAtTheEnds();
+        nearnessAtTheEnds();
         paintIsKept();
-        coordsEdges();
+        paintAtTheEnds();
         coordsAreKept();
-        texelEdges();
+        coordsAtTheEnds();
         texelsAreKept();
+        texelColoursAtTheEnds();
         checks.end();
-    }
-
-    private static void vertexEdges() {
-        int[][] good = {
-            {0, 0, 0, 0, 1}, {23, 0, 0, 0, 1}, {5, -800, -800, 0, 1}, {5, 800, 800, 0, 1},
-            {5, 0, 0, 1023, 1}, {5, 0, 0, 0, 64}};
-        int[][] bad = {
-            {-1, 0, 0, 0, 1}, {24, 0, 0, 0, 1}, {LEAST, 0, 0, 0, 1}, {MOST, 0, 0, 0, 1},
-            {5, -801, 0, 0, 1}, {5, 801, 0, 0, 1}, {5, LEAST, 0, 0, 1}, {5, MOST, 0, 0, 1},
-            {5, 0, -801, 0, 1}, {5, 0, 801, 0, 1}, {5, 0, LEAST, 0, 1}, {5, 0, MOST, 0, 1},
-            {5, 0, 0, -1, 1}, {5, 0, 0, 1024, 1}, {5, 0, 0, LEAST, 1}, {5, 0, 0, MOST, 1},
-            {5, 0, 0, 0, 0}, {5, 0, 0, 0, 65}, {5, 0, 0, 0, LEAST}, {5, 0, 0, 0, MOST}};
-        PixelPipe pipe = new PixelPipe();
-        for (int[] n : good) {
-            checks.due("vertex " + java.util.Arrays.toString(n), pipe.vertex(n[0], n[1], n[2], n[3], n[4]), true);
-            checks.due("error() after it", pipe.error(), 0);
-        }
-        for (int[] n : bad) {
-            boolean got = pipe.vertex(n[0], n[1], n[2], n[3], n[4]);
-            checks.refused("vertex " + java.util.Arrays.toString(n), pipe, got, PixelPipe.VALUE);
-        }
     }
 
     private static void vertexIsKept() {
@@ -49,30 +28,68 @@ public final class VertexDataTest {
         }
     }
 
-    private static void refusedVertexChangesNothing() {
+    private static void vertexIsSetAnew() {
         PixelPipe pipe = new PixelPipe();
         pipe.vertex(0, 20, 20, 7, 1);
-        pipe.vertex(0, 100, 100, 8, 65);
-        pipe.vertex(0, 100, 100, 1024, 1);
+        pipe.vertex(0, 100, 101, 8, 1);
         pipe.draw(0, 0, 1);
-        checks.due("depth at the old place", pipe.at(2, 2, 0), 7);
-        checks.due("depth at the refused place", pipe.at(12, 12, 0), 1023);
+        checks.due("depth at the old place", pipe.at(2, 2, 0), 1023);
+        checks.due("depth at the new place", pipe.at(12, 12, 0), 8);
     }
 
-    private static void paintEdges() {
-        PixelPipe pipe = new PixelPipe();
-        checks.due("paint(0, 0, 0, 0, 0)", pipe.paint(0, 0, 0, 0, 0), true);
-        checks.due("paint(23, 255, 255, 255, 255)", pipe.paint(23, 255, 255, 255, 255), true);
-        int[] bad = {-1, 256, LEAST, MOST};
-        for (int v : bad) {
-            checks.refused("paint r " + v, pipe, pipe.paint(0, v, 0, 0, 0), PixelPipe.VALUE);
-            checks.refused("paint g " + v, pipe, pipe.paint(0, 0, v, 0, 0), PixelPipe.VALUE);
-            checks.refused("paint b " + v, pipe, pipe.paint(0, 0, 0, v, 0), PixelPipe.VALUE);
-            checks.refused("paint alpha " + v, pipe, pipe.paint(0, 0, 0, 0, v), PixelPipe.VALUE);
+    /** Both diagonals of the greatest square: their middles show that no place was cut or wrapped. */
+    private static void placesAtTheEnds() {
+        int[][] corners = {{-800, -800}, {800, -800}, {800, 800}, {-800, 800}};
+        for (int left = 0; left < 4; left++) {
+            PixelPipe pipe = new PixelPipe();
+            for (int i = 0, n = 0; n < 4; n++) {
+                if (n != left) {
+                    pipe.vertex(i++, corners[n][0], corners[n][1], 0, 1);
+                }
+            }
+            checks.due("half of the greatest square without corner " + left, pipe.draw(1, 0, 3), half(left));
         }
-        int[] noVertices = {-1, 24, LEAST, MOST};
-        for (int i : noVertices) {
-            checks.refused("paint of vertex " + i, pipe, pipe.paint(i, 0, 0, 0, 0), PixelPipe.VALUE);
+    }
+
+    /**
+     * Without corner 0 or 2 the whole screen lies on one side of the slanting edge. Without 1 that edge goes
+     * downwards, so it has not the middles with x = y; without 3 it goes upwards and has them.
+     */
+    private static int half(int left) {
+        int above = 0;
+        for (int y = 0; y < Scenes.HEIGHT; y++) {
+            above += Scenes.WIDTH - 1 - y;
+        }
+        int all = Scenes.WIDTH * Scenes.HEIGHT;
+        int[] want = {all, all - above - Scenes.HEIGHT, 0, above + Scenes.HEIGHT};
+        return want[left];
+    }
+
+    private static void depthAtTheEnds() {
+        PixelPipe pipe = new PixelPipe();
+        pipe.clear(1, 500);
+        for (int z : new int[] {0, 1, 1022, 1023}) {
+            pipe.vertex(0, 0, 0, z, 1);
+            pipe.draw(0, 0, 1);
+            checks.due("depth of a point with z " + z, pipe.at(0, 0, 0), z);
+            Scenes.eighths(pipe, z, z, z);
+            pipe.draw(1, 0, 3);
+            checks.due("depth of a triangle with z " + z, pipe.at(2, 3, 0), z);
+        }
+    }
+
+    /** At 4, 4 the weights are as 7, 0 and 1. */
+    private static void nearnessAtTheEnds() {
+        PixelPipe pipe = new PixelPipe();
+        pipe.paint(0, 200, 0, 0, 0);
+        pipe.paint(2, 0, 200, 0, 0);
+        pipe.vertex(1, 68, 4, 0, 1);
+        int[][] want = {{1, 1, 175, 25}, {64, 1, 199, 0}, {1, 64, 19, 180}, {64, 64, 175, 25}, {63, 64, 174, 25}};
+        for (int[] n : want) {
+            pipe.vertex(0, 4, 4, 0, n[0]);
+            pipe.vertex(2, 4, 68, 0, n[1]);
+            pipe.draw(1, 0, 3);
+            checks.due("nearness " + n[0] + " and " + n[1], pipe.pixel(0, 1), Scenes.colour(n[2], n[3], 0));
         }
     }
 
@@ -81,55 +98,47 @@ public final class VertexDataTest {
         for (int i = 0; i < 24; i++) {
             pipe.paint(i, i + 1, i + 2, i + 3, i + 4);
         }
-        pipe.paint(3, 99, 99, 99, 256);
         for (int i = 0; i < 24; i++) {
             pipe.draw(0, i, 1);
             checks.due("colour of vertex " + i, pipe.pixel(0, 0), Scenes.colour(i + 1, i + 2, i + 3));
         }
-        PixelPipe alpha = new PixelPipe();
-        alpha.paint(0, 1, 2, 3, 4);
-        checks.due("register 3 is alpha", Scenes.registerIs(alpha, 0, 3, 4), true);
     }
 
-    private static void coordsEdges() {
-        PixelPipe pipe = new PixelPipe();
-        checks.due("coords(0, -1000, -1000)", pipe.coords(0, -1000, -1000), true);
-        checks.due("coords(23, 1000, 1000)", pipe.coords(23, 1000, 1000), true);
-        int[] bad = {-1001, 1001, LEAST, MOST};
-        for (int v : bad) {
-            checks.refused("coords s " + v, pipe, pipe.coords(0, v, 0), PixelPipe.VALUE);
-            checks.refused("coords t " + v, pipe, pipe.coords(0, 0, v), PixelPipe.VALUE);
-        }
-        int[] noVertices = {-1, 24, LEAST, MOST};
-        for (int i : noVertices) {
-            checks.refused("coords of vertex " + i, pipe, pipe.coords(i, 0, 0), PixelPipe.VALUE);
+    private static void paintAtTheEnds() {
+        int[][] some = {{0, 255, 0, 255}, {255, 0, 255, 0}, {1, 254, 1, 254}, {254, 1, 254, 1}};
+        for (int[] n : some) {
+            PixelPipe pipe = new PixelPipe();
+            pipe.paint(0, n[0], n[1], n[2], n[3]);
+            for (int register = 0; register < 4; register++) {
+                checks.due("register " + register + " by paint",
+                        Scenes.registerIs(pipe, 0, register, n[register]), true);
+            }
         }
     }
 
     private static void coordsAreKept() {
-        PixelPipe pipe = new PixelPipe();
-        pipe.paint(0, 9, 8, 7, 6);
-        pipe.coords(0, -1000, 999);
-        pipe.coords(0, 5, 1001);
-        pipe.coords(0, 1001, 5);
-        checks.due("register 4 is s", Scenes.registerIs(pipe, 0, 4, -1000), true);
-        checks.due("register 5 is t", Scenes.registerIs(pipe, 0, 5, 999), true);
-        checks.due("coords leave r", Scenes.registerIs(pipe, 0, 0, 9), true);
-        checks.due("coords leave alpha", Scenes.registerIs(pipe, 0, 3, 6), true);
+        for (int i = 0; i < 24; i++) {
+            PixelPipe pipe = new PixelPipe();
+            for (int n = 0; n < 24; n++) {
+                pipe.paint(n, 9, 8, 7, 6);
+                pipe.coords(n, 10 * n - 100, 100 - 9 * n);
+            }
+            // The helper draws vertex 0, so what it has there must be left by the calls for all others.
+            pipe.coords(0, 500 + i, -500 - i);
+            pipe.coords(23 - i % 23, 1, 2);
+            checks.due("register 4 is s", Scenes.registerIs(pipe, 0, 4, 500 + i), true);
+            checks.due("register 5 is t", Scenes.registerIs(pipe, 0, 5, -500 - i), true);
+            checks.due("coords leave r", Scenes.registerIs(pipe, 0, 0, 9), true);
+            checks.due("coords leave alpha", Scenes.registerIs(pipe, 0, 3, 6), true);
+        }
     }
 
-    private static void texelEdges() {
-        PixelPipe pipe = new PixelPipe();
-        checks.due("texel(0, 0, 0)", pipe.texel(0, 0, 0), true);
-        checks.due("texel(7, 7, 16777215)", pipe.texel(7, 7, 16777215), true);
-        int[] badPlaces = {-1, 8, LEAST, MOST};
-        for (int v : badPlaces) {
-            checks.refused("texel s " + v, pipe, pipe.texel(v, 0, 0), PixelPipe.VALUE);
-            checks.refused("texel t " + v, pipe, pipe.texel(0, v, 0), PixelPipe.VALUE);
-        }
-        int[] badColours = {-1, 16777216, LEAST, MOST};
-        for (int v : badColours) {
-            checks.refused("texel colour " + v, pipe, pipe.texel(0, 0, v), PixelPipe.VALUE);
+    private static void coordsAtTheEnds() {
+        for (int v : new int[] {-1000, -999, -1, 0, 1, 999, 1000}) {
+            PixelPipe pipe = new PixelPipe();
+            pipe.coords(0, v, -v);
+            checks.due("s at " + v, Scenes.registerIs(pipe, 0, 4, v), true);
+            checks.due("t at " + -v, Scenes.registerIs(pipe, 0, 5, -v), true);
         }
     }
 
@@ -140,7 +149,6 @@ public final class VertexDataTest {
                 pipe.texel(s, t, Scenes.colour(s + 1, t + 1, 8 * s + t));
             }
         }
-        pipe.texel(2, 3, 16777216);
         pipe.step(7, 0, 4, 5);
         for (int s = 0; s < 8; s++) {
             for (int t = 0; t < 8; t++) {
@@ -149,6 +157,16 @@ public final class VertexDataTest {
                 int want = Scenes.colour(s + 1, t + 1, 8 * s + t);
                 checks.due("texel " + s + ", " + t, pipe.pixel(0, 0), want);
             }
+        }
+    }
+
+    private static void texelColoursAtTheEnds() {
+        PixelPipe pipe = new PixelPipe();
+        pipe.step(7, 0, 4, 5);
+        for (int colour : new int[] {16777215, 0, 16777214, 1, 0xFF0000, 0x00FF00, 0x0000FF}) {
+            pipe.texel(0, 0, colour);
+            pipe.draw(0, 0, 1);
+            checks.due("texel of colour " + colour, pipe.pixel(0, 0), colour);
         }
     }
 }
