@@ -31,13 +31,25 @@ final class Call {
             case "step": return pipe.step(n[0], n[1], n[2], n[3]);
             case "keep": return bit(pipe.keep(n[0]));
             case "draw": return pipe.draw(n[0], n[1], n[2]);
+            case "pixel": return pipe.pixel(n[0], n[1]);
+            case "at": return pipe.at(n[0], n[1], n[2]);
+            case "error": return pipe.error();
+            case "count": return pipe.count(n[0]);
             default: throw new IllegalArgumentException(name);
         }
     }
 
+    int on(Model model) {
+        return model.answer(name, numbers);
+    }
+
+    boolean is(String other) {
+        return name.equals(other);
+    }
+
     /** What this call answers when it is refused. */
     int refusal() {
-        return name.equals("step") || name.equals("draw") ? -1 : 0;
+        return is("step") || is("draw") ? -1 : 0;
     }
 
     private static int bit(boolean answer) {
